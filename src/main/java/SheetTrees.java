@@ -927,7 +927,7 @@ public final class SheetTrees {
             return true;
         }
 
-        /** The telling that holds for a part at a page: a variant's own ones, up to the root, come before those above. */
+        /** The telling that holds at a page: a variant's own ones, up to the root, come before those of the one above. */
         int nearest(int kind, int variant, int page, int part) {
             int v = variant;
             for (int n = 0; n < MOST_VARIANTS && v != NONE; n++) {
