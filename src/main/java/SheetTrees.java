@@ -357,12 +357,12 @@ public final class SheetTrees {
 
     /** What one cell held before it was changed, and the change before that in the same act. */
     private static final class Change {
-        private final Row row;
-        private final int index;
-        private final long old;
-        private final Change before;
+        private Row row;
+        private int index;
+        private long old;
+        private Change before;
 
-        Change(Row row, int index, long old, Change before) {
+        void fill(Row row, int index, long old, Change before) {
             this.row = row;
             this.index = index;
             this.old = old;
@@ -370,7 +370,9 @@ public final class SheetTrees {
         }
 
         void takeBack() {
-            row.restore(index, old);
+            if (row != null) {
+                row.restore(index, old);
+            }
         }
     }
 
@@ -381,11 +383,22 @@ public final class SheetTrees {
         private int next;
         private Change open;
 
+        /** Changes to be filled anew: copies undone again and again note far more than is ever kept at once. */
+        private Change spare;
+
         void note(Row row, int index, long old) {
-            open = new Change(row, index, old, open);
+            Change noted = spare;
+            if (noted == null) {
+                noted = new Change();
+            } else {
+                spare = noted.before;
+            }
+            noted.fill(row, index, old, open);
+            open = noted;
         }
 
         void keep() {
+            setFree(getAct(next));
             putAct(next, open);
             open = null;
             next = (next + 1) % MOST_ACTS;
@@ -396,7 +409,19 @@ public final class SheetTrees {
             for (Change c = open; c != null; c = c.before) {
                 c.takeBack();
             }
+            setFree(open);
             open = null;
+        }
+
+        private void setFree(Change act) {
+            Change oldest = act;
+            for (Change c = act; c != null; c = c.before) {
+                oldest = c;
+            }
+            if (oldest != null) {
+                oldest.before = spare;
+                spare = act;
+            }
         }
 
         boolean stepBack() {
@@ -927,7 +952,7 @@ public final class SheetTrees {
             return true;
         }
 
-        /** The telling that holds at a page: a variant's own ones, up to the root, come before those of the one above. */
+        /** The telling that holds at a page: a variant's own, up to the root, come before those of the one above. */
         int nearest(int kind, int variant, int page, int part) {
             int v = variant;
             for (int n = 0; n < MOST_VARIANTS && v != NONE; n++) {
